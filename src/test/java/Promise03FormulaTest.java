@@ -171,6 +171,11 @@ public final class Promise03FormulaTest {
         worth("k20", 0);
         worth("sum(d4:k20)", 0);
         worth("0/a1", 0);
+        worth("1+2*(3+4*(5+6*(7+8*(9+1*(2+3*(4+5*62))))))", deep());
+    }
+
+    private static int deep() {
+        return 1 + 2 * (3 + 4 * (5 + 6 * (7 + 8 * (9 + (2 + 3 * (4 + 5 * 62))))));
     }
 
     private static void error(String text, int error) {

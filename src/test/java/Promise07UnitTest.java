@@ -70,6 +70,8 @@ public final class Promise07UnitTest {
         unitOf("sum(d1:d9)", "0 0 0", false);
         unitOf("sum(a2:d4)*b1", "1 2 -1", false);
         unitOf("a1/0", "1 0 0", false);
+        unitOf("c1+c1*(c1+c1*(c1+c1*(c1+c1*(c1+c1*(c1+c1*(c1+c1*c1))))))", "0 0 0", false);
+        unitOf("a1/a1+a1*(1/a1+b1*(1/a1/b1+c1*(1/a1/b1+c1*(1/b1/a1+b1*(1/a1/b1/b1)))))", "0 0 0", false);
         unitOf("e1", "0 0 0", false);
         unitOf("1+e1", "0 0 0", false);
     }

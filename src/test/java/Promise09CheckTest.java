@@ -108,7 +108,10 @@ public final class Promise09CheckTest {
         desk.put("b1", "sum(a1:a2)+sum(a1:b4)");
         Expect.same("in a ring itself", desk.findingsButDead().contains("4 ") ? 1 : 0, 0);
         desk.put("l20", "l10+l10").put("l10", "sum(k1:k9)").put("k5", 1);
-        Expect.same("far down", desk.findingsButDead().endsWith("4 l20 k5") ? 1 : 0, 1);
+        Expect.same("further down", desk.findingsButDead().endsWith("4 l20 k5") ? 1 : 0, 1);
+        desk = new Desk();
+        desk.put("l24", "l10+l10+a1").put("l10", "sum(k11:l23)").put("l23", 1).put("k23", 0).put("a1", "k23*1");
+        Expect.same("far down", desk.findingsButDead(), "4 l24 k23");
     }
 
     private static void dead() {
