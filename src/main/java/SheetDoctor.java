@@ -47,8 +47,6 @@ public final class SheetDoctor {
     private final Totals totals;
     private final Findings findings;
     private final Changes changes;
-    /** What is derived from the sheet is worked out only when a call asks for it. */
-    private boolean settled;
 
     public SheetDoctor() {
         tape = new char[TAPE_SIGNS];
@@ -62,7 +60,6 @@ public final class SheetDoctor {
         totals = new Totals(sheet, links);
         findings = new Findings(sheet, links, families, units, totals);
         changes = new Changes(values);
-        settled = false;
     }
 
     public int feed(long a, long b, long c) {
@@ -82,7 +79,7 @@ public final class SheetDoctor {
         if (formula == null) {
             return reader.fault;
         }
-        put(place, new Cell(FORMULA, 0, formula));
+        sheet.put(place, new Cell(FORMULA, 0, formula));
         return 0;
     }
 
@@ -90,7 +87,7 @@ public final class SheetDoctor {
         if (!onSheet(place)) {
             return false;
         }
-        put(place, new Cell(NUMBER, v, null));
+        sheet.put(place, new Cell(NUMBER, v, null));
         return true;
     }
 
@@ -98,7 +95,7 @@ public final class SheetDoctor {
         if (!onSheet(place)) {
             return false;
         }
-        put(place, sheet.blank);
+        sheet.put(place, sheet.blank);
         return true;
     }
 
@@ -110,7 +107,7 @@ public final class SheetDoctor {
         if (!cell.fits(to)) {
             return false;
         }
-        put(to, cell);
+        sheet.put(to, cell);
         return true;
     }
 
@@ -122,7 +119,6 @@ public final class SheetDoctor {
             return false;
         }
         sheet.replace(place, new Cell(sheet.at(place).number, a, b, c));
-        settled = false;
         return true;
     }
 
@@ -131,7 +127,6 @@ public final class SheetDoctor {
     }
 
     public int check() {
-        settle();
         return findings.gather();
     }
 
@@ -141,7 +136,7 @@ public final class SheetDoctor {
 
     public int mend(int place) {
         changes.forget();
-        settle();
+        families.settle();
         int neighbour = families.neighbourToCopy(place);
         if (neighbour == NONE) {
             return NONE;
@@ -150,22 +145,23 @@ public final class SheetDoctor {
         if (!cell.fits(place)) {
             return NONE;
         }
+        values.settle();
         changes.remember();
-        put(place, cell);
-        settle();
+        sheet.put(place, cell);
+        values.settle();
         return changes.compare();
     }
 
     public int stretch(int place, int k) {
         changes.forget();
-        settle();
         Formula longer = stretchedFormula(place, k);
         if (longer == null) {
             return NONE;
         }
+        values.settle();
         changes.remember();
-        put(place, new Cell(FORMULA, 0, longer));
-        settle();
+        sheet.put(place, new Cell(FORMULA, 0, longer));
+        values.settle();
         return changes.compare();
     }
 
@@ -178,11 +174,10 @@ public final class SheetDoctor {
         if (sheet.depth == 0) {
             return NONE;
         }
-        settle();
+        values.settle();
         changes.remember();
         sheet.takeBack();
-        settled = false;
-        settle();
+        values.settle();
         return changes.compare();
     }
 
@@ -190,25 +185,31 @@ public final class SheetDoctor {
         if (!onSheet(place) || what < 0 || what > 10) {
             throw new NoSuchElementException("no such cell, or nothing of that number to tell");
         }
-        settle();
         switch (what) {
             case 0:
                 return sheet.kindAt(place);
             case 1:
+                values.settle();
                 return values.valueAt(place);
             case 2:
+                values.settle();
                 return values.errorAt(place);
             case 3:
+                families.settle();
                 return families.familyAt(place);
             case 4:
             case 5:
             case 6:
+                units.settle();
                 return units.exponentAt(place, what - 4);
             case 7:
+                totals.settle();
                 return totals.isTotal(place) ? 1 : 0;
             case 8:
+                links.settle();
                 return links.cellsReadBy(place);
             case 9:
+                links.settle();
                 return links.readersOf(place);
             default:
                 return sheet.isKept(place) ? 1 : 0;
@@ -219,7 +220,7 @@ public final class SheetDoctor {
         if (!onSheet(from) || !onSheet(total)) {
             return NONE;
         }
-        settle();
+        totals.settle();
         return totals.isTotal(total) ? totals.waysInto(from, total) : NONE;
     }
 
@@ -230,10 +231,10 @@ public final class SheetDoctor {
             case 1:
                 return sheet.cellsOfKind(FORMULA);
             case 2:
-                settle();
+                families.settle();
                 return families.size;
             case 3:
-                settle();
+                values.settle();
                 return values.errors();
             case 4:
                 return tapeSize;
@@ -254,16 +255,12 @@ public final class SheetDoctor {
         }
     }
 
-    private void put(int place, Cell cell) {
-        sheet.put(place, cell);
-        settled = false;
-    }
-
     private Formula stretchedFormula(int place, int k) {
         Formula formula = sheet.formulaAt(place);
         if (formula == null) {
             return null;
         }
+        families.settle();
         int step = formula.stepOfSum(k);
         if (findings.shortBelow(place, formula, step) != NONE) {
             return formula.stretched(step, 1, 0);
@@ -272,18 +269,6 @@ public final class SheetDoctor {
             return formula.stretched(step, 0, 1);
         }
         return null;
-    }
-
-    private void settle() {
-        if (settled) {
-            return;
-        }
-        links.settle();
-        values.settle();
-        families.settle();
-        units.settle();
-        totals.settle();
-        settled = true;
     }
 
     private static boolean onSheet(int place) {
@@ -512,6 +497,8 @@ public final class SheetDoctor {
         private final int[] pastPlaces;
         private final Cell[] pastCells;
         int depth;
+        /** Another one after each change: what is derived is worked out anew only when it is asked for. */
+        int version;
 
         Sheet() {
             blank = new Cell(EMPTY, 0, null);
@@ -526,6 +513,7 @@ public final class SheetDoctor {
                 pastCells[i] = blank;
             }
             depth = 0;
+            version = 0;
         }
 
         Cell at(int place) {
@@ -565,6 +553,7 @@ public final class SheetDoctor {
         void replace(int place, Cell cell) {
             if (onSheet(place)) {
                 cells[place] = cell;
+                version++;
             }
         }
 
@@ -915,6 +904,7 @@ public final class SheetDoctor {
         private final int[] order;
         private int ordered;
         private final int[] span;
+        private int version;
 
         Links(Sheet sheet) {
             this.sheet = sheet;
@@ -926,9 +916,15 @@ public final class SheetDoctor {
             waiting = new int[PLACES];
             order = new int[PLACES];
             span = new int[PLACES];
+            version = NONE;
         }
 
         void settle() {
+            if (version == sheet.version) {
+                return;
+            }
+            version = sheet.version;
+            forgetReads();
             gatherReads();
             ordered = 0;
             for (int i = 0; i < formulaCount; i++) {
@@ -939,9 +935,11 @@ public final class SheetDoctor {
                 }
             }
             release(0);
-            int free = ordered;
-            findRings();
-            release(free);
+            if (ordered < formulaCount) {
+                int free = ordered;
+                findRings();
+                release(free);
+            }
         }
 
         boolean inRing(int place) {
@@ -976,10 +974,19 @@ public final class SheetDoctor {
             return found;
         }
 
-        private void gatherReads() {
-            Arrays.fill(reads, 0L);
-            Arrays.fill(formulaSet, 0L);
+        private void forgetReads() {
+            for (int i = 0; i < formulaCount; i++) {
+                for (int word = 0; word < WORDS; word++) {
+                    reads[formulas[i] * WORDS + word] = 0L;
+                }
+            }
+            for (int word = 0; word < WORDS; word++) {
+                formulaSet[word] = 0L;
+            }
             formulaCount = 0;
+        }
+
+        private void gatherReads() {
             for (int place = 0; place < PLACES; place++) {
                 ring[place] = false;
                 waiting[place] = 0;
@@ -1073,6 +1080,7 @@ public final class SheetDoctor {
         private int openCount;
         /** The first error of the formula that is worked out. */
         private int wrong;
+        private int version;
 
         Values(Sheet sheet, Links links) {
             this.sheet = sheet;
@@ -1081,9 +1089,15 @@ public final class SheetDoctor {
             error = new int[PLACES];
             span = new int[PLACES];
             open = new int[OPEN_OPERANDS];
+            version = NONE;
         }
 
         void settle() {
+            if (version == sheet.version) {
+                return;
+            }
+            version = sheet.version;
+            links.settle();
             for (int place = 0; place < PLACES; place++) {
                 value[place] = sheet.at(place).number;
                 error[place] = 0;
@@ -1191,30 +1205,40 @@ public final class SheetDoctor {
     private static final class Families {
         private final Sheet sheet;
         private final int[] family;
+        /** Of each family its first one, and how many families there are. */
+        private final int[] eldest;
         int size;
+        private int version;
 
         Families(Sheet sheet) {
             this.sheet = sheet;
             family = new int[PLACES];
+            eldest = new int[PLACES];
+            version = NONE;
         }
 
         void settle() {
+            if (version == sheet.version) {
+                return;
+            }
+            version = sheet.version;
             size = 0;
             for (int place = 0; place < PLACES; place++) {
                 Formula formula = sheet.formulaAt(place);
-                family[place] = formula == null ? NONE : leastKin(place, formula);
-                if (family[place] == place) {
-                    size++;
-                }
+                family[place] = formula == null ? NONE : familyOf(place, formula);
             }
         }
 
-        private int leastKin(int place, Formula formula) {
-            for (int other = 0; other < place; other++) {
-                Formula eldest = familyAt(other) == other ? sheet.formulaAt(other) : null;
-                if (eldest != null && eldest.isKinOf(formula)) {
-                    return other;
+        private int familyOf(int place, Formula formula) {
+            for (int i = 0; i < size; i++) {
+                Formula other = sheet.formulaAt(eldest[i]);
+                if (other != null && other.isKinOf(formula)) {
+                    return eldest[i];
                 }
+            }
+            if (size < PLACES) {
+                eldest[size] = place;
+                size++;
             }
             return place;
         }
@@ -1256,6 +1280,7 @@ public final class SheetDoctor {
         private final int[] open;
         private int openCount;
         private boolean clashing;
+        private int version;
 
         Units(Sheet sheet, Links links) {
             this.sheet = sheet;
@@ -1264,9 +1289,15 @@ public final class SheetDoctor {
             clash = new boolean[PLACES];
             span = new int[PLACES];
             open = new int[OPEN_OPERANDS * PARTS];
+            version = NONE;
         }
 
         void settle() {
+            if (version == sheet.version) {
+                return;
+            }
+            version = sheet.version;
+            links.settle();
             for (int place = 0; place < PLACES; place++) {
                 Cell cell = sheet.at(place);
                 exponents[place * PARTS] = cell.unitA;
@@ -1373,6 +1404,7 @@ public final class SheetDoctor {
         /** For each total the cells with a way or more into it, and those with two or more. */
         private final long[] once;
         private final long[] twice;
+        private int version;
 
         Totals(Sheet sheet, Links links) {
             this.sheet = sheet;
@@ -1382,9 +1414,15 @@ public final class SheetDoctor {
             span = new int[PLACES];
             once = new long[PLACES * WORDS];
             twice = new long[PLACES * WORDS];
+            version = NONE;
         }
 
         void settle() {
+            if (version == sheet.version) {
+                return;
+            }
+            version = sheet.version;
+            links.settle();
             for (int place = 0; place < PLACES; place++) {
                 Formula formula = sheet.formulaAt(place);
                 total[place] = formula != null && formula.isOfReadsAndPlus() && !links.inRing(place);
@@ -1399,7 +1437,6 @@ public final class SheetDoctor {
             if (isTotal(from) || sheet.kindAt(from) == EMPTY || !onSheet(into)) {
                 return 0;
             }
-            Arrays.fill(found, 0);
             for (int i = 0; i < links.orderSize(); i++) {
                 int place = links.inOrder(i);
                 Formula formula = sheet.formulaAt(place);
@@ -1430,14 +1467,20 @@ public final class SheetDoctor {
 
         /** All totals at once, as sets of cells: asking cell by cell would cost far more. */
         void gatherTwice() {
-            Arrays.fill(once, 0L);
-            Arrays.fill(twice, 0L);
             for (int i = 0; i < links.orderSize(); i++) {
                 int place = links.inOrder(i);
                 Formula formula = sheet.formulaAt(place);
                 if (isTotal(place) && formula != null) {
+                    forgetTwiceOf(place);
                     gatherTwiceOf(place, formula);
                 }
+            }
+        }
+
+        private void forgetTwiceOf(int home) {
+            for (int word = 0; word < WORDS; word++) {
+                once[home * WORDS + word] = 0L;
+                twice[home * WORDS + word] = 0L;
             }
         }
 
@@ -1474,6 +1517,9 @@ public final class SheetDoctor {
         }
 
         int leastTwice(int into) {
+            if (!isTotal(into)) {
+                return NONE;
+            }
             for (int place = 0; place < PLACES; place++) {
                 if (hasBit(twice, into, place)) {
                     return place;
@@ -1508,6 +1554,9 @@ public final class SheetDoctor {
 
         int gather() {
             size = 0;
+            families.settle();
+            units.settle();
+            totals.settle();
             totals.gatherTwice();
             for (int place = 0; place < PLACES; place++) {
                 if (sheet.kindAt(place) != EMPTY) {
