@@ -36,9 +36,7 @@ public final class SheetDoctor {
     /** Eight parts within one another never leave more than 17 operands open. */
     private static final int OPEN_OPERANDS = 32;
 
-    private final char[] tape;
-    private int tapeSize;
-    private final Reader reader;
+    private final Tape tape;
     private final Sheet sheet;
     private final Links links;
     private final Values values;
@@ -49,9 +47,7 @@ public final class SheetDoctor {
     private final Changes changes;
 
     public SheetDoctor() {
-        tape = new char[TAPE_SIGNS];
-        tapeSize = 0;
-        reader = new Reader(tape);
+        tape = new Tape();
         sheet = new Sheet();
         links = new Links(sheet);
         values = new Values(sheet, links);
@@ -63,21 +59,21 @@ public final class SheetDoctor {
     }
 
     public int feed(long a, long b, long c) {
-        append(a);
-        append(b);
-        append(c);
-        return tapeSize;
+        tape.append(a);
+        tape.append(b);
+        tape.append(c);
+        return tape.length;
     }
 
     public int formula(int place) {
-        int length = tapeSize;
-        tapeSize = 0;
         if (!onSheet(place)) {
+            tape.length = 0;
             return NONE;
         }
-        Formula formula = reader.read(length, place);
+        Formula formula = tape.read(place);
+        tape.length = 0;
         if (formula == null) {
-            return reader.fault;
+            return tape.fault;
         }
         sheet.put(place, new Cell(FORMULA, 0, formula));
         return 0;
@@ -237,21 +233,11 @@ public final class SheetDoctor {
                 values.settle();
                 return values.errors();
             case 4:
-                return tapeSize;
+                return tape.length;
             case 5:
                 return sheet.depth;
             default:
                 return NONE;
-        }
-    }
-
-    private void append(long eightSigns) {
-        for (int shift = 56; shift >= 0; shift -= 8) {
-            int sign = (int) (eightSigns >>> shift) & 255;
-            if (sign >= 32 && sign <= 126 && tapeSize < TAPE_SIGNS) {
-                tape[tapeSize] = (char) sign;
-                tapeSize++;
-            }
         }
     }
 
@@ -583,8 +569,8 @@ public final class SheetDoctor {
         }
     }
 
-    /** Reads the tape's text as a formula, or tells its fault. */
-    private static final class Reader {
+    /** The tape, and how its text is read as a formula, or its fault found. */
+    private static final class Tape {
         private static final int END = 0;
         private static final int WORD = 'w';
         private static final int DIGITS = 'n';
@@ -603,7 +589,7 @@ public final class SheetDoctor {
         private static final int ABOVE_FIRST = 7;
 
         private final char[] text;
-        private int length;
+        int length;
         private int home;
         /** The tokens: of a sign the kind is the sign itself. */
         private final int[] kinds;
@@ -617,8 +603,9 @@ public final class SheetDoctor {
         private final int[] last;
         private int size;
 
-        Reader(char[] text) {
-            this.text = text;
+        Tape() {
+            text = new char[TAPE_SIGNS];
+            length = 0;
             kinds = new int[TAPE_SIGNS + 1];
             amounts = new int[TAPE_SIGNS + 1];
             starts = new int[TAPE_SIGNS + 1];
@@ -627,8 +614,18 @@ public final class SheetDoctor {
             last = new int[TAPE_SIGNS];
         }
 
-        Formula read(int signs, int place) {
-            length = Math.min(signs, text.length);
+        void append(long eightSigns) {
+            for (int shift = 56; shift >= 0; shift -= 8) {
+                int sign = (int) (eightSigns >>> shift) & 255;
+                if (sign >= 32 && sign <= 126 && length < TAPE_SIGNS) {
+                    text[length] = (char) sign;
+                    length++;
+                }
+            }
+        }
+
+        /** The formula as it is at that place, or null where there is a fault. */
+        Formula read(int place) {
             home = place;
             size = 0;
             fault = 0;
@@ -991,7 +988,7 @@ public final class SheetDoctor {
                 ring[place] = false;
                 waiting[place] = 0;
                 Formula formula = sheet.formulaAt(place);
-                if (formula != null) {
+                if (formula != null && formulaCount < PLACES) {
                     formulas[formulaCount] = place;
                     formulaCount++;
                     setBit(formulaSet, 0, place);
