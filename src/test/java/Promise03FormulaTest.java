@@ -79,6 +79,10 @@ public final class Promise03FormulaTest {
         fault("abc1", 1, 0);
         fault("abcd1", 1, 0);
         fault("1+sums(a1:a2)", 1, 2);
+        fault("tum(a1:a2)", 1, 0);
+        fault("som(a1:a2)", 1, 0);
+        fault("sun(a1:a2)", 1, 0);
+        fault("su(a1:a2)", 1, 0);
         fault("sum", 1, 3);
         fault("sum1", 1, 3);
         fault("sum a1", 1, 4);
@@ -222,8 +226,9 @@ public final class Promise03FormulaTest {
         }
         Expect.same("errors", desk.doctor.count(3), 8);
         Expect.same("d1 is between two rings, in none", desk.get("d1", Desk.TOTAL), 1);
-        Expect.same("a1 is in one", desk.get("a1", Desk.TOTAL), 0);
-        Expect.same("e1 is in one", desk.get("e1", Desk.TOTAL), 0);
+        for (String name : new String[] {"a1", "b1", "c1", "e1", "f1"}) {
+            Expect.same(name + " is in one", desk.get(name, Desk.TOTAL), 0);
+        }
         desk.put("e1", 3);
         Expect.same("d1 then", desk.value("d1"), 3);
         Expect.same("a1 still", desk.get("a1", Desk.ERROR), 2);

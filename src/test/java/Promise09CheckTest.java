@@ -120,6 +120,9 @@ public final class Promise09CheckTest {
         Expect.same("dead ones", desk.findings(), "5 b1 -, 5 d1 -");
         desk.doctor.keep(Desk.at("b1"), true);
         Expect.same("one kept", desk.findings(), "5 d1 -");
+        desk = new Desk();
+        desk.put("a1", 1).put("l24", "2");
+        Expect.same("at the first place and the last", desk.findings(), "5 a1 -, 5 l24 -");
     }
 
     private static void order() {

@@ -86,6 +86,9 @@ public final class Promise15CellTest {
         Desk desk = new Desk();
         desk.put("a1", 5);
         Expect.same("a number", desk.get("a1", Desk.TOTAL), 0);
+        desk.put("a1", "c1").put("l24", "sum(a1:c1)");
+        Expect.same("at the first place", desk.get("a1", Desk.TOTAL), 1);
+        Expect.same("at the last one", desk.get("l24", Desk.TOTAL), 1);
         Expect.same("an empty cell", desk.get("b1", Desk.TOTAL), 0);
     }
 
