@@ -851,7 +851,7 @@ public final class SheetDoctor {
             boolean columnFixed = kind() == '$';
             token += columnFixed ? 1 : 0;
             int column = amount();
-            int columnFault = columnFault(column, leastColumn);
+            int columnFault = columnFault(kind(), column, leastColumn);
             if (columnFault != 0) {
                 wrong(columnFault);
                 return NONE;
@@ -860,7 +860,7 @@ public final class SheetDoctor {
             boolean rowFixed = kind() == '$';
             token += rowFixed ? 1 : 0;
             int row = amount() - 1;
-            int rowFault = rowFault(row, leastRow);
+            int rowFault = rowFault(kind(), row, leastRow);
             if (rowFault != 0) {
                 wrong(rowFault);
                 return NONE;
@@ -869,15 +869,15 @@ public final class SheetDoctor {
             return Formula.reference(row * COLUMNS + column, columnFixed, rowFixed, home);
         }
 
-        private int columnFault(int column, int leastColumn) {
-            if (kind() != WORD || column >= COLUMNS) {
+        private static int columnFault(int kind, int column, int leastColumn) {
+            if (kind != WORD || column >= COLUMNS) {
                 return MISPLACED;
             }
             return column < leastColumn ? LEFT_OF_FIRST : 0;
         }
 
-        private int rowFault(int row, int leastRow) {
-            if (kind() != DIGITS) {
+        private static int rowFault(int kind, int row, int leastRow) {
+            if (kind != DIGITS) {
                 return MISPLACED;
             }
             if (row < 0 || row >= ROWS) {
