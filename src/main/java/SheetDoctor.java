@@ -99,11 +99,11 @@ public final class SheetDoctor {
         if (!onSheet(from) || !onSheet(to)) {
             return false;
         }
-        Cell cell = sheet.at(from);
-        if (!cell.fits(to)) {
+        Cell copied = sheet.copyFor(from, to);
+        if (copied == null) {
             return false;
         }
-        sheet.put(to, cell);
+        sheet.put(to, copied);
         return true;
     }
 
@@ -137,13 +137,13 @@ public final class SheetDoctor {
         if (neighbour == NONE) {
             return NONE;
         }
-        Cell cell = sheet.at(neighbour);
-        if (!cell.fits(place)) {
+        Cell copied = sheet.copyFor(neighbour, place);
+        if (copied == null) {
             return NONE;
         }
         values.settle();
         changes.remember();
-        sheet.put(place, cell);
+        sheet.put(place, copied);
         values.settle();
         return changes.compare();
     }
@@ -441,7 +441,7 @@ public final class SheetDoctor {
         }
     }
 
-    /** What stands in a cell; it never changes, so that copies and what is taken back can share it. */
+    /** What stands in a cell; it never changes, so that places and what is taken back can share it. */
     private static final class Cell {
         final int kind;
         final int number;
@@ -470,6 +470,11 @@ public final class SheetDoctor {
 
         boolean fits(int home) {
             return formula == null || formula.fits(home);
+        }
+
+        /** A unit is told of one cell: it does not go along to where the number is put anew. */
+        Cell withoutUnit() {
+            return kind == NUMBER ? new Cell(NUMBER, number, null) : this;
         }
     }
 
@@ -512,6 +517,12 @@ public final class SheetDoctor {
 
         Formula formulaAt(int place) {
             return onSheet(place) ? cells[place].formula : null;
+        }
+
+        /** What a copy puts to the other place, or null where it can't be. */
+        Cell copyFor(int from, int to) {
+            Cell cell = at(from);
+            return cell.fits(to) ? cell.withoutUnit() : null;
         }
 
         boolean isKept(int place) {

@@ -265,7 +265,7 @@ final class PlainDoctor {
     private Content copied(int from, int to) {
         Content content = cells[from];
         if (content.kind != 2) {
-            return content;
+            return new Content(content.kind, content.number, null, new int[3]);
         }
         Node there = moved(content.formula, to % 12 - from % 12, to / 12 - from / 12);
         return there == null ? null : new Content(2, 0, there, new int[3]);

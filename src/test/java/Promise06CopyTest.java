@@ -4,6 +4,7 @@ public final class Promise06CopyTest {
         moved();
         refused();
         othersThanFormulas();
+        putAnewWithoutUnit();
         Expect.end();
     }
 
@@ -65,12 +66,28 @@ public final class Promise06CopyTest {
         desk.put("a1", 5).unit("a1", 1, 0, -2).put("b1", 6).put("c1", "1");
         Expect.yes("a number", desk.copy("a1", "b1"));
         Expect.same("is the same", desk.value("b1"), 5);
-        Expect.same("in the same unit", desk.unitOf("b1"), "1 0 -2");
+        Expect.same("the unit stays behind", desk.unitOf("a1"), "1 0 -2");
         Expect.yes("over a formula", desk.copy("a1", "c1"));
         Expect.same("kind", desk.get("c1", Desk.KIND), 1);
         Expect.yes("an empty one", desk.copy("l24", "a1"));
         Expect.same("kind then", desk.get("a1", Desk.KIND), 0);
         Expect.same("the copy stays", desk.value("b1"), 5);
         Expect.same("undos", desk.doctor.count(5), 6);
+    }
+
+    private static void putAnewWithoutUnit() {
+        Desk desk = new Desk();
+        desk.put("a1", 5).unit("a1", 1, 0, -2).put("b1", 6).unit("b1", 0, 3, 0);
+        Expect.yes("over another unit", desk.copy("a1", "b1"));
+        Expect.same("no unit", desk.unitOf("b1"), "0 0 0");
+        Expect.same("the unit of then", desk.doctor.undo() + " " + desk.unitOf("b1"), "1 0 3 0");
+        Expect.yes("to itself", desk.copy("a1", "a1"));
+        Expect.same("its value", desk.value("a1"), 5);
+        Expect.same("put anew, too", desk.unitOf("a1"), "0 0 0");
+        Expect.same("and taken back", desk.doctor.undo() + " " + desk.unitOf("a1"), "0 1 0 -2");
+        desk.copy("a1", "a2");
+        desk.unit("a2", 1, 0, -2).put("c1", "a1+a2").put("c2", "a1+a3");
+        desk.copy("a2", "a3");
+        Expect.same("no clash where it was told anew", desk.findingsButDead(), "6 c2 -");
     }
 }
