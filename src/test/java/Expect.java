@@ -2,6 +2,7 @@
 final class Expect {
     private static int asked = 0;
     private static int wrong = 0;
+    private static String edge = "";
 
     private Expect() {
     }
@@ -9,17 +10,35 @@ final class Expect {
     static void same(String what, long got, long due) {
         asked++;
         if (got != due) {
-            wrong++;
-            System.out.println(what + " answered " + got + ", due is " + due);
+            tell(what + " answered " + got + ", due is " + due);
         }
     }
 
     static void same(String what, String got, String due) {
         asked++;
         if (!got.equals(due)) {
-            wrong++;
-            System.out.println(what + " answered " + got + ", due is " + due);
+            tell(what + " answered " + got + ", due is " + due);
         }
+    }
+
+    private static void tell(String fault) {
+        wrong++;
+        System.out.println(edge + fault);
+    }
+
+    /** A boundary of the document, tested by itself: one that fails does not keep the next from its turn. */
+    static void edge(String name, Runnable test) {
+        edge = name + ": ";
+        int before = asked;
+        try {
+            test.run();
+        } catch (RuntimeException thrown) {
+            tell("threw " + thrown);
+        }
+        if (asked == before) {
+            tell("nothing was asked");
+        }
+        edge = "";
     }
 
     static void yes(String what, boolean got) {

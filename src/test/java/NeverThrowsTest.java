@@ -15,10 +15,10 @@ public final class NeverThrowsTest {
     }
 
     private static void oddArguments() {
-        for (int run = 0; run < 20; run++) {
+        for (int run = 0; run < 200; run++) {
             Random random = new Random(run);
             SheetDoctor doctor = new SheetDoctor();
-            for (int i = 0; i < 5000; i++) {
+            for (int i = 0; i < 400; i++) {
                 callAny(doctor, random, i);
             }
         }
@@ -78,7 +78,7 @@ public final class NeverThrowsTest {
         }
         int findings = desk.doctor.check();
         Expect.yes("many findings", findings >= 276);
-        for (int i = 0; i < 100; i++) {
+        for (int i = 0; i < 50; i++) {
             desk.doctor.number(0, i);
             desk.doctor.undo();
             desk.doctor.check();

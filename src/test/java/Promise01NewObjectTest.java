@@ -3,9 +3,10 @@ public final class Promise01NewObjectTest {
     public static void main(String[] args) {
         SheetDoctor doctor = new SheetDoctor();
         Expect.same("NONE", SheetDoctor.NONE, -1);
-        for (int place = 0; place < 288; place++) {
-            for (int what = 0; what <= 10; what++) {
-                Expect.same("cell(" + place + ", " + what + ")", doctor.cell(place, what), what == 3 ? -1 : 0);
+        for (int what = 0; what <= 10; what++) {
+            SheetDoctor other = new SheetDoctor();
+            for (int place = 0; place < 288; place++) {
+                Expect.same("cell(" + place + ", " + what + ")", other.cell(place, what), what == 3 ? -1 : 0);
             }
         }
         for (int what = 0; what <= 5; what++) {

@@ -1,9 +1,10 @@
 import java.util.NoSuchElementException;
 import java.util.Random;
 
-/** Long runs of calls, always the same ones, against the plain doctor. */
+/** Runs of as many calls as an object is made for, always the same ones, against the plain doctor. */
 public final class RandomRunsTest {
-    private static final int CALLS = 512;
+    /** A little less than 512: the last of them may be several. */
+    private static final int CALLS = 500;
     private final Random random;
     private final SheetDoctor doctor = new SheetDoctor();
     private final PlainDoctor plain = new PlainDoctor();
@@ -12,6 +13,7 @@ public final class RandomRunsTest {
     private final int rows;
     private final int firstColumn;
     private final int firstRow;
+    private int asked = 0;
 
     private RandomRunsTest(int run) {
         this.run = run;
@@ -29,7 +31,7 @@ public final class RandomRunsTest {
     }
 
     public static void main(String[] args) {
-        int runs = args.length > 0 ? Integer.parseInt(args[0]) : 60;
+        int runs = args.length > 0 ? Integer.parseInt(args[0]) : 200;
         for (int run = 0; run < runs; run++) {
             new RandomRunsTest(run).calls();
         }
@@ -37,7 +39,7 @@ public final class RandomRunsTest {
     }
 
     private void calls() {
-        for (int i = 0; i < CALLS; i++) {
+        while (asked < CALLS) {
             call();
         }
     }
@@ -113,6 +115,7 @@ public final class RandomRunsTest {
     }
 
     private void same(String call, long got, long due) {
+        asked++;
         Expect.same("run " + run + ": " + call, got, due);
     }
 
@@ -217,18 +220,28 @@ public final class RandomRunsTest {
     }
 
     private void findings() {
-        for (int i = -1; i < 60; i++) {
-            for (int what = -1; what <= 3; what++) {
+        int size = 0;
+        while (size < 300 && plain.finding(size, 0) != -1) {
+            size++;
+        }
+        for (int i = random.nextInt(4); i < size && asked < CALLS - 4; i += 1 + random.nextInt(3)) {
+            for (int what = 0; what <= 2; what++) {
                 same("finding(" + i + ", " + what + ")", doctor.finding(i, what), plain.finding(i, what));
             }
         }
+        same("finding(" + size + ", 0)", doctor.finding(size, 0), plain.finding(size, 0));
     }
 
     private void changes() {
-        for (int i = -1; i < 40; i++) {
-            for (int what = -1; what <= 5; what++) {
+        int size = 0;
+        while (plain.changed(size, 0) != -1) {
+            size++;
+        }
+        for (int i = 0; i < size && asked < CALLS - 6; i += 1 + random.nextInt(3)) {
+            for (int what = 0; what <= 4; what++) {
                 same("changed(" + i + ", " + what + ")", doctor.changed(i, what), plain.changed(i, what));
             }
         }
+        same("changed(" + size + ", 0)", doctor.changed(size, 0), plain.changed(size, 0));
     }
 }
