@@ -25,6 +25,7 @@ public final class EdgesOfPromises9To14Test {
         Expect.edge("12: what is no FORMULA, or has no sum( )", EdgesOfPromises9To14Test::stretchOthers);
         Expect.edge("12: a k that there is not", EdgesOfPromises9To14Test::stretchNoSuchSum);
         Expect.edge("12: the k-th is not SHORT, another is", EdgesOfPromises9To14Test::stretchOtherSum);
+        Expect.edge("12: now, whatever check() told", EdgesOfPromises9To14Test::stretchNow);
         Expect.edge("12: down if that is SHORT, else right", EdgesOfPromises9To14Test::stretchDownFirst);
         Expect.edge("12: to the sheet's last row and column", EdgesOfPromises9To14Test::stretchToEdges);
         Expect.edge("12: what is FIXED stays so", EdgesOfPromises9To14Test::stretchFixed);
@@ -42,6 +43,7 @@ public final class EdgesOfPromises9To14Test {
         Expect.edge("14: 20 deep", EdgesOfPromises9To14Test::undo20);
         Expect.edge("14: more than 20 deep", EdgesOfPromises9To14Test::undo21);
         Expect.edge("14: much more than 20 deep", EdgesOfPromises9To14Test::undoMany);
+        Expect.edge("14: each kind of call as the 21st", EdgesOfPromises9To14Test::undoEachAs21st);
         Expect.edge("14: what was refused is not taken back", EdgesOfPromises9To14Test::undoRefused);
         Expect.edge("14: unit() and keep() are not taken back", EdgesOfPromises9To14Test::undoOthers);
         Expect.edge("14: its unit, too", EdgesOfPromises9To14Test::undoUnit);
@@ -290,6 +292,17 @@ public final class EdgesOfPromises9To14Test {
         Expect.same("it was done", desk.get("h8", Desk.READS), 4);
     }
 
+    private static void stretchNow() {
+        Desk desk = new Desk().put("a1", 1).put("h8", "sum(a1:a1)");
+        desk.doctor.check();
+        desk.put("a2", 2);
+        Expect.same("without a new check()", desk.doctor.stretch(Desk.at("h8"), 0), 1);
+        desk.put("a3", 3);
+        desk.doctor.check();
+        desk.doctor.empty(Desk.at("a3"));
+        Expect.same("check() told it, but now it is not so", desk.doctor.stretch(Desk.at("h8"), 0), -1);
+    }
+
     private static void stretchDownFirst() {
         Desk desk = new Desk().put("c3", 1).put("c4", 20).put("d3", 300).put("h8", "sum(c3:c3)");
         Expect.same("both are SHORT", desk.doctor.stretch(Desk.at("h8"), 0), 1);
@@ -504,6 +517,45 @@ public final class EdgesOfPromises9To14Test {
             Expect.same("undo to " + v, desk.doctor.undo() + " " + desk.value("a1"), "1 " + v);
         }
         Expect.same("no further", desk.doctor.undo() + " " + desk.value("a1"), "-1 82");
+    }
+
+    /** a1 to c1 want a mend, h8 a stretch, and 20 calls more can be taken back. */
+    private static Desk twentyDeep() {
+        Desk desk = new Desk().put("a1", "1").put("b1", 2).put("c1", "1").put("f1", 3).put("f2", 4).put("h8", "sum(f1:f1)");
+        for (int v = 1; v <= 20; v++) {
+            desk.put("l24", v);
+        }
+        Expect.same("20 deep", desk.doctor.count(5), 20);
+        return desk;
+    }
+
+    private static void takeBackAll(Desk desk, String call) {
+        Expect.same("still 20 after " + call, desk.doctor.count(5), 20);
+        desk.doctor.undo();
+        Expect.same(call + " is taken back", desk.value("b1") + " " + desk.value("h8") + " " + desk.value("l24"), "2 3 20");
+        for (int v = 19; v >= 1; v--) {
+            Expect.same("undo to " + v, desk.doctor.undo() + " " + desk.value("l24"), "1 " + v);
+        }
+        Expect.same("no further", desk.doctor.undo() + " " + desk.value("l24"), "-1 1");
+    }
+
+    private static void undoEachAs21st() {
+        Desk desk = twentyDeep().put("b1", 9);
+        takeBackAll(desk, "number()");
+        desk = twentyDeep().put("b1", "9");
+        takeBackAll(desk, "formula()");
+        desk = twentyDeep();
+        desk.doctor.empty(1);
+        takeBackAll(desk, "empty()");
+        desk = twentyDeep();
+        desk.copy("f2", "b1");
+        takeBackAll(desk, "copy()");
+        desk = twentyDeep();
+        Expect.same("mend", desk.doctor.mend(1), 1);
+        takeBackAll(desk, "mend()");
+        desk = twentyDeep();
+        Expect.same("stretch", desk.doctor.stretch(Desk.at("h8"), 0), 1);
+        takeBackAll(desk, "stretch()");
     }
 
     private static void undoRefused() {

@@ -43,7 +43,6 @@ public final class EdgesOfTerms1Test {
         Expect.same("fault of '" + text + "'", new Desk().formula("f12", text), 0);
     }
 
-    /** All on one text, whose value is told by its own: as often as it is wanted. */
     private static String many(String text, int times) {
         return text.repeat(times);
     }
@@ -161,6 +160,11 @@ public final class EdgesOfTerms1Test {
         fault("a`1", CANT_STAND, 1);
         fault("a{1", CANT_STAND, 1);
         fault("z1", CANT_STAND, 0);
+        fault("az1", CANT_STAND, 0);
+        fault("1+za1", CANT_STAND, 2);
+        fault("1+aa1", CANT_STAND, 2);
+        fault("sumz(a1:a2)", CANT_STAND, 0);
+        fault("suma(a1:a2)", CANT_STAND, 0);
     }
 
     private static void numbers() {

@@ -16,6 +16,8 @@ public final class EdgesOfTerms2Test {
         Expect.edge("a RING of all cells", EdgesOfTerms2Test::ringOfAll);
         Expect.edge("a RING goes before other ERRORS", EdgesOfTerms2Test::ringGoesFirst);
         Expect.edge("what reads a RING", EdgesOfTerms2Test::readsRing);
+        Expect.edge("a RING of half the sheet, and all else reads it", EdgesOfTerms2Test::ringAndItsReaders);
+        Expect.edge("many ERRORS and a value behind them", EdgesOfTerms2Test::manyErrors);
         Expect.edge("the first ERROR that is read", EdgesOfTerms2Test::firstError);
         Expect.edge("the first ERROR of a SPAN", EdgesOfTerms2Test::firstErrorOfSpan);
         Expect.edge("a COPY off the sheet", EdgesOfTerms2Test::copyOffTheSheet);
@@ -187,6 +189,33 @@ public final class EdgesOfTerms2Test {
         Expect.same("ZERO in the ring's stead", desk.get("d1", Desk.ERROR), ZERO);
         desk.put("a1", 4);
         Expect.same("without it", desk.value("d1"), 4);
+    }
+
+    private static void ringAndItsReaders() {
+        Desk desk = new Desk().put("a1", "b1").put("l1", "a2").put("l12", "a1");
+        for (int place = 1; place < 143; place++) {
+            desk.doctor.copy(place % 12 == 11 ? 11 : 0, place);
+        }
+        desk.put("a13", "l12").put("b13", "a13");
+        for (int place = 146; place < 288; place++) {
+            desk.doctor.copy(place % 12 == 0 ? 144 : 145, place);
+        }
+        Expect.same("all have the ERROR", desk.doctor.count(3), 288);
+        Expect.same("in the RING and behind it", desk.get("f12", Desk.TOTAL) + " " + desk.get("l24", Desk.TOTAL), "0 1");
+        desk.put("a1", 3);
+        Expect.same("broken", desk.doctor.count(3) + " " + desk.value("l24"), "0 3");
+    }
+
+    private static void manyErrors() {
+        Desk desk = new Desk().put("a1", "1+(2*(3+(4/0)))").put("a2", "1+(2*(3+$a$2))");
+        for (int place = 13; place < 200; place++) {
+            desk.doctor.copy(place % 2 == 0 ? 0 : 12, place);
+        }
+        desk.put("l24", "1+(2*(3+4))").put("k24", "l24+1").put("j24", "(1+(2+a1))");
+        Expect.same("a value", desk.value("l24"), 15);
+        Expect.same("what reads it", desk.value("k24"), 16);
+        Expect.same("an ERROR more", desk.get("j24", Desk.ERROR), ZERO);
+        Expect.same("all of them", desk.doctor.count(3), 190);
     }
 
     private static void firstError() {

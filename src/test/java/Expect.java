@@ -2,6 +2,7 @@
 final class Expect {
     private static int asked = 0;
     private static int wrong = 0;
+    private static int edges = 0;
     private static String edge = "";
 
     private Expect() {
@@ -28,6 +29,7 @@ final class Expect {
 
     /** A boundary of the document, tested by itself: one that fails does not keep the next from its turn. */
     static void edge(String name, Runnable test) {
+        edges++;
         edge = name + ": ";
         int before = asked;
         try {
@@ -55,6 +57,9 @@ final class Expect {
         }
         if (wrong != 0 || asked == 0) {
             System.exit(1);
+        }
+        if (edges > 0) {
+            System.out.println(edges + " boundaries hold, each by itself");
         }
     }
 }
