@@ -13,6 +13,7 @@ public final class EdgesOfTerms1Test {
         Expect.edge("the TAPE's 120 signs", EdgesOfTerms1Test::fullTape);
         Expect.edge("the TAPE's signs 32 .. 126", EdgesOfTerms1Test::signsOfTheTape);
         Expect.edge("what reads the TAPE takes it", EdgesOfTerms1Test::taken);
+        Expect.edge("what was on the TAPE before", EdgesOfTerms1Test::signsOfBefore);
         Expect.edge("blanks between tokens, not within", EdgesOfTerms1Test::blanks);
         Expect.edge("WORDS of 3 letters at most", EdgesOfTerms1Test::words);
         Expect.edge("WORDS: the letters a to z alone", EdgesOfTerms1Test::letters);
@@ -123,6 +124,17 @@ public final class EdgesOfTerms1Test {
         desk.doctor.check();
         desk.doctor.undo();
         Expect.same("others leave it alone", desk.doctor.count(4), 3);
+    }
+
+    private static void signsOfBefore() {
+        Desk desk = new Desk();
+        desk.formula("a1", "1+99999+bbb+ddd");
+        desk.put("a1", "1+9");
+        Expect.same("a NUMBER ends where the text does", desk.value("a1"), 10);
+        Expect.same("a WORD, too", desk.formula("a1", "1+99999+b"), CANT_STAND + 16 * 9);
+        Expect.same("a dollar, too", desk.formula("a1", "1+$"), CANT_STAND + 16 * 3);
+        desk.put("b1", 5).put("a1", "1+b1");
+        Expect.same("a REF, too", desk.value("a1"), 6);
     }
 
     private static void blanks() {
@@ -317,6 +329,11 @@ public final class EdgesOfTerms1Test {
     private static void lastPlace() {
         fault(many("1+", 59) + "1#", CANT_STAND, 119);
         fault(many("1+", 59) + "a0", NO_ROW, 119);
+        fault(many("1+", 59) + " a", CANT_STAND, 120);
+        fault(many("1+", 58) + " sum", CANT_STAND, 120);
+        fault(many("1+", 58) + "abcd", CANT_STAND, 116);
+        fault(many(" ", 113) + "1234567", CANT_STAND, 113);
+        accepted(many(" ", 114) + "123456");
         fault(many("1+", 60), CANT_STAND, 120);
         fault(many(" ", 112) + many("-", 8), CANT_STAND, 120);
         fault(many(" ", 111) + many("-", 8) + "1", TOO_DEEP, 119);
