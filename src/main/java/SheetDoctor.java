@@ -123,6 +123,9 @@ public final class SheetDoctor {
     }
 
     public int check() {
+        families.settle();
+        units.settle();
+        totals.settle();
         return findings.gather();
     }
 
@@ -1560,11 +1563,9 @@ public final class SheetDoctor {
             size = 0;
         }
 
+        /** Families, units and totals are settled by now: from here their calls would go too deep. */
         int gather() {
             size = 0;
-            families.settle();
-            units.settle();
-            totals.settle();
             totals.gatherTwice();
             for (int place = 0; place < PLACES; place++) {
                 if (sheet.kindAt(place) != EMPTY) {

@@ -3,7 +3,8 @@ final class Expect {
     private static int asked = 0;
     private static int wrong = 0;
     private static int edges = 0;
-    private static String edge = "";
+    private static int sentences = 0;
+    private static String named = "";
 
     private Expect() {
     }
@@ -24,13 +25,22 @@ final class Expect {
 
     private static void tell(String fault) {
         wrong++;
-        System.out.println(edge + fault);
+        System.out.println(named + fault);
     }
 
-    /** A boundary of the document, tested by itself: one that fails does not keep the next from its turn. */
     static void edge(String name, Runnable test) {
         edges++;
-        edge = name + ": ";
+        byItself(name, test);
+    }
+
+    static void sentence(String words, Runnable test) {
+        sentences++;
+        byItself(words, test);
+    }
+
+    /** A boundary or a sentence of the document: one that fails does not keep the next from its turn. */
+    private static void byItself(String name, Runnable test) {
+        named = name + ": ";
         int before = asked;
         try {
             test.run();
@@ -40,7 +50,7 @@ final class Expect {
         if (asked == before) {
             tell("nothing was asked");
         }
-        edge = "";
+        named = "";
     }
 
     static void yes(String what, boolean got) {
@@ -60,6 +70,9 @@ final class Expect {
         }
         if (edges > 0) {
             System.out.println(edges + " boundaries hold, each by itself");
+        }
+        if (sentences > 0) {
+            System.out.println(sentences + " sentences hold, each by itself");
         }
     }
 }

@@ -5,7 +5,7 @@ import java.lang.reflect.Modifier;
 import java.util.Set;
 import java.util.TreeSet;
 
-/** The public face as the document writes it, and the README's example. */
+/** The public face as the document writes it. */
 public final class FaceTest {
     private static final String METHODS = "boolean copy(int,int), boolean empty(int), boolean keep(int,boolean), "
             + "boolean number(int,int), boolean unit(int,int,int,int), int cell(int,int), int changed(int,int), "
@@ -14,7 +14,6 @@ public final class FaceTest {
 
     public static void main(String[] args) {
         members();
-        example();
         Expect.end();
     }
 
@@ -38,21 +37,5 @@ public final class FaceTest {
         for (Class<?> inside : face.getDeclaredClasses()) {
             Expect.yes(inside.toString(), Modifier.isStatic(inside.getModifiers()));
         }
-    }
-
-    private static void example() {
-        SheetDoctor doctor = new SheetDoctor();
-        doctor.number(0, 5);
-        doctor.number(12, 7);
-        doctor.number(24, 9);
-        doctor.feed(0x73756d2861313a61L, 0x3229L, 0);
-        Expect.same("formula", doctor.formula(37), 0);
-        Expect.same("cell", doctor.cell(37, 1), 12);
-        Expect.same("check", doctor.check(), 3);
-        Expect.same("kind", doctor.finding(1, 0), 3);
-        Expect.same("other", doctor.finding(1, 2), 24);
-        Expect.same("stretch", doctor.stretch(37, 0), 1);
-        Expect.same("changed", doctor.changed(0, 2), 21);
-        Expect.same("undo", doctor.undo(), 1);
     }
 }
