@@ -346,7 +346,8 @@ public final class SentencesOfPromisesTest {
         desk.put("a4", "1/0").doctor.keep(Desk.at("a3"), true);
         String[] names = {"a1", "a2", "a3", "a4", "l24"};
         int[][] due = {{1, 6, 0, NONE, 1, 2, 3, 0, 0, 1, 0}, {2, 12, 0, 12, 1, 2, 3, 1, 2, 1, 0},
-            {2, 24, 0, 12, 1, 2, 3, 1, 2, 0, 1}, {2, 0, 1, 36, 0, 0, 0, 0, 0, 0, 0}, {0, 0, 0, NONE, 0, 0, 0, 0, 0, 0, 0}};
+            {2, 24, 0, 12, 1, 2, 3, 1, 2, 0, 1}, {2, 0, 1, 36, 0, 0, 0, 0, 0, 0, 0},
+            {0, 0, 0, NONE, 0, 0, 0, 0, 0, 0, 0}};
         for (int i = 0; i < names.length; i++) {
             for (int what = 0; what <= 10; what++) {
                 Expect.same(names[i] + ", what " + what, desk.get(names[i], what), due[i][what]);
@@ -388,7 +389,8 @@ public final class SentencesOfPromisesTest {
     }
 
     private static void count() {
-        Desk desk = new Desk().put("a1", 6).put("a2", "a1").put("a3", "a2").put("a4", "1/0").put("a5", "a4/1").put("b9", 4);
+        Desk desk = new Desk().put("a1", 6).put("a2", "a1").put("a3", "a2");
+        desk.put("a4", "1/0").put("a5", "a4/1").put("b9", 4);
         desk.feed("12345");
         int[] due = {2, 4, 3, 2, 5, 6};
         for (int what = 0; what < due.length; what++) {
